@@ -28,6 +28,10 @@ final class Answers {
         }
     }
 
+    int wrong() {
+        return wrong;
+    }
+
     void end(String test) {
         System.out.println(test + ": " + asked + " asked, " + wrong + " not as due");
         if (wrong != 0) {
