@@ -614,6 +614,16 @@ public final class PromisesTest {
         due("32 none", STATE, () -> bridge().compromiseIn(1));
     }
 
+    /** Rows of village, plank, reach, pace and the wish from then on; planks bear two each. */
+    private static RopeChoices homeward(int[][] delegates) {
+        RopeChoices x = new RopeChoices();
+        for (int[] d : delegates) {
+            x.persuade(x.send(d[0], d[1], d[2], d[3]), d[4]);
+        }
+        x.setStrength(2);
+        return x;
+    }
+
     private static void promise33RoundsUntilTreaty() {
         due("33 none", -1, () -> bridge().roundsUntilTreaty());
         due("33 one", -1, () -> bridge(5).roundsUntilTreaty());
@@ -630,6 +640,15 @@ public final class PromisesTest {
         due("33 behind one more", 1, slow::roundsUntilTreaty);
         slow.passRounds(1);
         due("33 there it is", 0, slow::roundsUntilTreaty);
+        RopeChoices late = homeward(new int[][] {
+            {0, 40, 0, 1, 1},
+            {4, 31, 18, 1, 16},
+            {2, 40, 0, 1, 0},
+            {2, 40, 14, 1, 0},
+            {2, 40, 0, 1, 0},
+            {3, 39, 11, 1, 13},
+        });
+        due("33 late", 46, late::roundsUntilTreaty);
         RopeChoices one = new RopeChoices();
         one.send(1, 5, 20, 5);
         one.send(1, 5, 20, 5);
@@ -651,6 +670,23 @@ public final class PromisesTest {
         due("34 behind one more", 1, slow::roundsUntilStill);
         slow.passRounds(1);
         due("34 there it is", 0, slow::roundsUntilStill);
+        RopeChoices late = homeward(new int[][] {
+            {3, 37, 18, 2, 13},
+            {0, 40, 0, 1, 0},
+            {1, 39, 20, 5, 15},
+            {0, 39, 1, 2, 2},
+            {4, 39, 0, 4, 19},
+            {4, 0, 0, 2, 39},
+            {3, 2, 0, 1, 40},
+            {3, 9, 0, 2, 40},
+            {4, 39, 0, 4, 8},
+            {3, 35, 8, 5, 38},
+            {4, 2, 0, 1, 40},
+            {1, 35, 2, 5, 39},
+        });
+        due("34 late", 90, late::roundsUntilStill);
+        late.passRounds(50);
+        due("34 still late", 40, late::roundsUntilStill);
     }
 
     private static void promise35BestStand() {
