@@ -322,15 +322,15 @@ public final class ComeAndGoEdgesTest extends Edges {
         RopeChoices x = new RopeChoices();
         x.persuade(x.send(0, 0, 0, 1), 40);
         x.send(1, 20, 0, 1);
-        dueBadRounds("7 passRounds", x, rounds -> x.passRounds(rounds));
+        dueBadRounds("7 passRounds", x, x::passRounds);
         due("7 one round", 1, () -> x.passRounds(1));
         duePlanks("7 behind one round", x, 1, 20);
         due("7 is one round", 1, x::rounds);
         due("7 fifty rounds", 39, () -> x.passRounds(50));
         duePlanks("7 behind fifty more", x, 40, 20);
         due("7 are fifty more", 51, x::rounds);
-        dueBadRounds("7 passRounds without delegates", new RopeChoices(),
-            rounds -> new RopeChoices().passRounds(rounds));
+        RopeChoices none = new RopeChoices();
+        dueBadRounds("7 passRounds without delegates", none, none::passRounds);
     }
 
     private void passRoundsWithoutDelegates() {

@@ -22,6 +22,7 @@ public final class WhatWouldBeEdgesTest extends Edges {
         compromiseInOneToFiftyRounds();
         treatyNow();
         treatyForTheFirstTime();
+        treatyLate();
         treatyNever();
         stillNow();
         stillForTheFirstTime();
@@ -160,7 +161,8 @@ public final class WhatWouldBeEdgesTest extends Edges {
         dueUnchanged("30 only the first one would go", false, first, first::isStill);
         RopeChoices twelve = Bridges.of(7, 7, 7, 7, 7, 7, 7, 7, 7, 7, 7, 7);
         dueUnchanged("30 twelve together", true, twelve, twelve::isStill);
-        dueUnchanged("30 twelve apart", false, Bridges.full(), () -> Bridges.full().isStill());
+        RopeChoices apart = Bridges.full();
+        dueUnchanged("30 twelve apart", false, apart, apart::isStill);
     }
 
     private void isStillWithoutRoom() {
@@ -293,6 +295,26 @@ public final class WhatWouldBeEdgesTest extends Edges {
         dueUnchanged("33 behind 38 rounds", 38, slow, slow::roundsUntilTreaty);
         RopeChoices fast = Bridges.ofRows(12, new int[][] {{0, 0, 0, 5, 40}, {1, 40, 0, 1, 40}});
         dueUnchanged("33 behind eight rounds", 8, fast, fast::roundsUntilTreaty);
+    }
+
+    /** A long file of delegates who all go from the last planks to the first ones. */
+    private void treatyLate() {
+        RopeChoices x = Bridges.ofRows(3, new int[][] {
+            {0, 40, 7, 1, 1},
+            {1, 40, 4, 1, 0},
+            {2, 40, 4, 1, 0},
+            {3, 40, 0, 1, 0},
+            {4, 40, 1, 1, 0},
+            {0, 40, 1, 1, 0},
+            {1, 40, 0, 1, 0},
+            {2, 39, 0, 1, 0},
+            {3, 22, 3, 5, 5},
+        });
+        for (int gone = 0; gone <= 48; gone++) {
+            dueUnchanged("33 behind " + gone + " of 48", 48 - gone, x, x::roundsUntilTreaty);
+            due("33 behind " + gone + " of 48", gone == 48, x::isTreaty);
+            x.passRounds(1);
+        }
     }
 
     private void treatyNever() {
