@@ -31,7 +31,8 @@ final class Bridges {
     static String everythingOf(RopeChoices x) {
         StringBuilder text = new StringBuilder();
         text.append(x.rounds()).append(" rounds, strength ").append(x.strength());
-        for (int i = 0; i < x.delegates(); i++) {
+        int count = x.delegates();
+        for (int i = 0; i < count; i++) {
             text.append("; ").append(x.villageOf(i)).append(' ').append(x.wishOf(i))
                 .append(' ').append(x.reachOf(i)).append(' ').append(x.paceOf(i))
                 .append(' ').append(x.plankOf(i));

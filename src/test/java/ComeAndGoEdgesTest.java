@@ -147,22 +147,29 @@ public final class ComeAndGoEdgesTest extends Edges {
     }
 
     private void sendThrowsTheFirstNamed() {
-        RopeChoices x = Bridges.full();
+        dueRefusedByFull("village before reach", INDEX, 5, 5, 21, 1);
+        dueRefusedByFull("village before pace", INDEX, -1, 5, 0, 0);
+        dueRefusedByFull("village before the full bridge", INDEX, 5, 30, 0, 1);
+        dueRefusedByFull("wish before reach", INDEX, 0, 41, -1, 1);
+        dueRefusedByFull("wish before pace", INDEX, 0, -1, 0, 6);
+        dueRefusedByFull("wish before the full bridge", INDEX, 0, 41, 0, 1);
+        dueRefusedByFull("reach before the full bridge", ARGUMENT, 0, 30, 21, 1);
+        dueRefusedByFull("pace before the full bridge", ARGUMENT, 0, 30, 0, 6);
+        dueRefusedByFull("the full bridge, and no room", STATE, 0, 5, 0, 1);
+        RopeChoices x = Bridges.of(5, 6);
         x.setStrength(1);
-        dueUnchanged("2 village before reach", INDEX, x, () -> x.send(5, 5, 21, 1));
-        dueUnchanged("2 village before pace", INDEX, x, () -> x.send(-1, 5, 0, 0));
-        dueUnchanged("2 village before the full bridge", INDEX, x, () -> x.send(5, 30, 0, 1));
-        dueUnchanged("2 wish before reach", INDEX, x, () -> x.send(0, 41, -1, 1));
-        dueUnchanged("2 wish before pace", INDEX, x, () -> x.send(0, -1, 0, 6));
-        dueUnchanged("2 wish before the full bridge", INDEX, x, () -> x.send(0, 41, 0, 1));
-        dueUnchanged("2 reach before the full bridge", ARGUMENT, x, () -> x.send(0, 30, 21, 1));
-        dueUnchanged("2 pace before the full bridge", ARGUMENT, x, () -> x.send(0, 30, 0, 6));
-        dueUnchanged("2 the full bridge, and no room", STATE, x, () -> x.send(0, 5, 0, 1));
-        x.recall(11);
         dueUnchanged("2 village before no room", INDEX, x, () -> x.send(5, 5, 0, 1));
         dueUnchanged("2 reach before no room", ARGUMENT, x, () -> x.send(0, 5, -1, 1));
         dueUnchanged("2 pace before no room", ARGUMENT, x, () -> x.send(0, 5, 0, 0));
         dueUnchanged("2 no room", STATE, x, () -> x.send(0, 5, 0, 1));
+    }
+
+    /** Of twelve on the planks 5 to 16, which bear one each. */
+    private void dueRefusedByFull(String what, Object due, int village, int wish, int reach,
+            int pace) {
+        RopeChoices x = Bridges.full();
+        x.setStrength(1);
+        dueUnchanged("2 " + what, due, x, () -> x.send(village, wish, reach, pace));
     }
 
     // ---- recall

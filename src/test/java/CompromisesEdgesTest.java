@@ -128,8 +128,8 @@ public final class CompromisesEdgesTest extends Edges {
 
     private void compromiseWithoutOneOfTwelve() {
         for (int many = 2; many <= 12; many++) {
-            RopeChoices x = mixed(many);
             for (int i = 0; i < many; i++) {
+                RopeChoices x = mixed(many);
                 int delegate = i;
                 int due = withoutPlank(sorted(many), MIXED[i])[(many - 2) / 2];
                 dueUnchanged("21 of " + many + ", without " + i, due, x,

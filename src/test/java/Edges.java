@@ -1,4 +1,7 @@
-/** What the tests of the boundary cases have in common. */
+/**
+ * What the tests of the boundary cases have in common. No object is asked more than 512 times,
+ * as later answers are free; so a loop over many questions asks a new bridge each time.
+ */
 abstract class Edges {
     static final Object INDEX = IndexOutOfBoundsException.class;
     static final Object ARGUMENT = IllegalArgumentException.class;
@@ -46,24 +49,22 @@ abstract class Edges {
 
     /** Numbers that no delegate has: of three, of none, and of the twelve that are the most. */
     final void dueNoSuchDelegate(String what, Question question) {
-        RopeChoices three = Bridges.of(3, 30, 12);
-        RopeChoices none = new RopeChoices();
-        RopeChoices full = Bridges.full();
         for (int delegate : new int[] {-1, 3, 11, 12, FAR_BELOW, FAR_ABOVE}) {
-            dueUnchanged(what + " of three: " + delegate, INDEX, three,
-                () -> question.answer(three, delegate));
+            dueNotOneOf(what + " of three", Bridges.of(3, 30, 12), delegate, question);
         }
         for (int delegate : new int[] {-1, 0, 1, FAR_BELOW, FAR_ABOVE}) {
-            dueUnchanged(what + " of none: " + delegate, INDEX, none,
-                () -> question.answer(none, delegate));
+            dueNotOneOf(what + " of none", new RopeChoices(), delegate, question);
         }
         for (int delegate : new int[] {-1, 12, 13, FAR_BELOW, FAR_ABOVE}) {
-            dueUnchanged(what + " of twelve: " + delegate, INDEX, full,
-                () -> question.answer(full, delegate));
+            dueNotOneOf(what + " of twelve", Bridges.full(), delegate, question);
         }
-        full.recall(0);
-        dueUnchanged(what + " of eleven: the number that was the last one", INDEX, full,
-            () -> question.answer(full, 11));
+        RopeChoices eleven = Bridges.full();
+        eleven.recall(0);
+        dueNotOneOf(what + " of eleven, the number that was the last one", eleven, 11, question);
+    }
+
+    private void dueNotOneOf(String what, RopeChoices x, int delegate, Question question) {
+        dueUnchanged(what + ": " + delegate, INDEX, x, () -> question.answer(x, delegate));
     }
 
     /** A call with a delegate's number, at a bridge. */

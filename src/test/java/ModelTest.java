@@ -54,7 +54,8 @@ public final class ModelTest {
     private void makeCalls() {
         // Some runs keep to few delegates, others fill the bridge.
         int most = 1 + numbers.below(12);
-        for (int call = 0; call < CALLS; call++) {
+        // The digest behind the run is the last of the calls for which an object is used.
+        for (int call = 1; call < CALLS; call++) {
             if (numbers.below(3) == 0) {
                 change(most);
             } else {

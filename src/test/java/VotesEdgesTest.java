@@ -21,18 +21,23 @@ public final class VotesEdgesTest extends Edges {
     }
 
     private void refused(String what, TwoPlanks question) {
-        RopeChoices three = Bridges.of(3, 30, 12);
-        RopeChoices none = new RopeChoices();
-        for (RopeChoices x : new RopeChoices[] {three, none}) {
-            String text = what + " of " + x.delegates();
-            dueNoSuchPlank(text + ", the first", x, plank -> question.answer(x, plank, 20));
-            dueNoSuchPlank(text + ", the second", x, plank -> question.answer(x, 20, plank));
-            dueNoSuchPlank(text + ", both are the same, and no plank", x,
-                plank -> question.answer(x, plank, plank));
-            for (int plank : new int[] {0, 1, 20, 39, 40}) {
-                dueUnchanged(text + ", both are the same: " + plank, ARGUMENT, x,
-                    () -> question.answer(x, plank, plank));
-            }
+        noSuchPlanks(what + " of three", Bridges.of(3, 30, 12), question);
+        noSuchPlanks(what + " of none", new RopeChoices(), question);
+        samePlanks(what + " of three", Bridges.of(3, 30, 12), question);
+        samePlanks(what + " of none", new RopeChoices(), question);
+    }
+
+    private void noSuchPlanks(String what, RopeChoices x, TwoPlanks question) {
+        dueNoSuchPlank(what + ", the first", x, plank -> question.answer(x, plank, 20));
+        dueNoSuchPlank(what + ", the second", x, plank -> question.answer(x, 20, plank));
+        dueNoSuchPlank(what + ", both are the same, and no plank", x,
+            plank -> question.answer(x, plank, plank));
+    }
+
+    private void samePlanks(String what, RopeChoices x, TwoPlanks question) {
+        for (int plank : new int[] {0, 1, 20, 39, 40}) {
+            dueUnchanged(what + ", both are the same: " + plank, ARGUMENT, x,
+                () -> question.answer(x, plank, plank));
         }
     }
 

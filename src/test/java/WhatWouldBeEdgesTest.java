@@ -211,11 +211,11 @@ public final class WhatWouldBeEdgesTest extends Edges {
 
     private void plankInOneToFiftyRounds() {
         for (int rounds = 1; rounds <= 50; rounds++) {
-            RopeChoices x = longWay();
             RopeChoices later = longWay();
             later.passRounds(rounds);
             int r = rounds;
             for (int i = 0; i < 12; i++) {
+                RopeChoices x = longWay();
                 int delegate = i;
                 dueUnchanged("31 as if " + rounds + " rounds went by", later.plankOf(i), x,
                     () -> x.plankIn(delegate, r));
@@ -298,8 +298,8 @@ public final class WhatWouldBeEdgesTest extends Edges {
     }
 
     /** A long file of delegates who all go from the last planks to the first ones. */
-    private void treatyLate() {
-        RopeChoices x = Bridges.ofRows(3, new int[][] {
+    private static RopeChoices longFile() {
+        return Bridges.ofRows(3, new int[][] {
             {0, 40, 7, 1, 1},
             {1, 40, 4, 1, 0},
             {2, 40, 4, 1, 0},
@@ -310,10 +310,16 @@ public final class WhatWouldBeEdgesTest extends Edges {
             {2, 39, 0, 1, 0},
             {3, 22, 3, 5, 5},
         });
+    }
+
+    private void treatyLate() {
         for (int gone = 0; gone <= 48; gone++) {
+            RopeChoices x = longFile();
+            for (int round = 0; round < gone; round++) {
+                x.passRounds(1);
+            }
             dueUnchanged("33 behind " + gone + " of 48", 48 - gone, x, x::roundsUntilTreaty);
             due("33 behind " + gone + " of 48", gone == 48, x::isTreaty);
-            x.passRounds(1);
         }
     }
 
@@ -423,7 +429,7 @@ public final class WhatWouldBeEdgesTest extends Edges {
             int plank = i * i % 41;
             sum += plank;
             x.send(i % 5, plank, 3, 2);
-            dueUnchanged("36 of " + (i + 1), (double) sum / (i + 1), x, x::meanPlank);
+            due("36 of " + (i + 1), (double) sum / (i + 1), x::meanPlank);
         }
         due("36 all on the first plank", 0.0, () -> Bridges.of(0, 0, 0).meanPlank());
         due("36 all on the last plank", 40.0, () -> Bridges.of(40, 40, 40).meanPlank());
