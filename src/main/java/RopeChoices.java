@@ -1,6 +1,6 @@
 /**
- * A rope bridge of preferences between villages: delegates stand on its planks and go, round by
- * round, towards the compromise, which is the median of where all stand.
+ * A rope bridge of preferences between villages. What each call promises stands in the project's
+ * document, and is not said here again, so that the two can't differ.
  */
 public final class RopeChoices {
     private static final int VILLAGES = 5;
@@ -29,7 +29,6 @@ public final class RopeChoices {
     private final int[] laterPlanks;
     private final PlankRow row;
 
-    /** Creates a bridge without delegates, at the round 0. */
     public RopeChoices() {
         count = 0;
         roundsGone = 0;
@@ -45,7 +44,6 @@ public final class RopeChoices {
 
     // ---- delegates come and go
 
-    /** A village sends a delegate, who stands on the wished plank; returns this one's number. */
     public int send(int village, int wish, int reach, int pace)
             throws IndexOutOfBoundsException, IllegalArgumentException, IllegalStateException {
         checkVillage(village);
@@ -67,7 +65,6 @@ public final class RopeChoices {
         return delegate;
     }
 
-    /** A delegate leaves the bridge; returns the plank on which this one stood. */
     public int recall(int delegate) throws IndexOutOfBoundsException {
         checkDelegate(delegate);
         int plank = planks[delegate];
@@ -80,7 +77,6 @@ public final class RopeChoices {
         return plank;
     }
 
-    /** Persuades a delegate to wish for another plank; returns the one wished for before. */
     public int persuade(int delegate, int wish) throws IndexOutOfBoundsException {
         checkDelegate(delegate);
         checkPlank(wish);
@@ -89,7 +85,6 @@ public final class RopeChoices {
         return before;
     }
 
-    /** Leads a delegate to a plank, however far it is; returns the plank where this one stood. */
     public int lead(int delegate, int plank)
             throws IndexOutOfBoundsException, IllegalStateException {
         checkDelegate(delegate);
@@ -105,7 +100,6 @@ public final class RopeChoices {
         return before;
     }
 
-    /** Sets the strength of each plank; returns the strength before. */
     public int setStrength(int strength) throws IllegalArgumentException {
         if (strength < 1 || strength > MOST_STRENGTH) {
             throw new IllegalArgumentException("the strength is not 1 to 12");
@@ -115,7 +109,6 @@ public final class RopeChoices {
         return before;
     }
 
-    /** Lets rounds go by; returns how often a delegate went to another plank in them. */
     public int passRounds(int rounds) throws IllegalArgumentException {
         checkRounds(rounds);
         roundsGone += rounds;
@@ -124,76 +117,63 @@ public final class RopeChoices {
 
     // ---- what there is
 
-    /** Returns how many delegates there are. */
     public int delegates() {
         return count;
     }
 
-    /** Returns how many rounds went by. */
     public int rounds() {
         return roundsGone;
     }
 
-    /** Returns the strength of each plank. */
     public int strength() {
         return plankStrength;
     }
 
-    /** Returns the village of a delegate. */
     public int villageOf(int delegate) throws IndexOutOfBoundsException {
         checkDelegate(delegate);
         return villages[delegate];
     }
 
-    /** Returns the plank that a delegate wishes for. */
     public int wishOf(int delegate) throws IndexOutOfBoundsException {
         checkDelegate(delegate);
         return wishes[delegate];
     }
 
-    /** Returns the reach of a delegate. */
     public int reachOf(int delegate) throws IndexOutOfBoundsException {
         checkDelegate(delegate);
         return reaches[delegate];
     }
 
-    /** Returns the pace of a delegate. */
     public int paceOf(int delegate) throws IndexOutOfBoundsException {
         checkDelegate(delegate);
         return paces[delegate];
     }
 
-    /** Returns the plank where a delegate stands. */
     public int plankOf(int delegate) throws IndexOutOfBoundsException {
         checkDelegate(delegate);
         return planks[delegate];
     }
 
-    /** Returns how many delegates stand on a plank. */
     public int standingOn(int plank) throws IndexOutOfBoundsException {
         checkPlank(plank);
         return crowdOn(planks, plank);
     }
 
-    /** Returns how far the two who stand the farthest from each other are apart, or 0. */
     public int spread() {
         return distanceOfEnds(planks);
     }
 
-    /** Returns whether there is a treaty. */
     public boolean isTreaty() {
         return agreesAt(planks);
     }
 
     // ---- compromises
 
-    /** Returns the compromise of all delegates. */
     public int compromise() throws IllegalStateException {
         checkSomeoneThere();
         return middleOfAll(planks);
     }
 
-    /** Returns the compromise of the delegates of a village. */
     public int compromiseOf(int village) throws IndexOutOfBoundsException, IllegalStateException {
         checkVillage(village);
         gatherVillage(village);
@@ -203,7 +183,6 @@ public final class RopeChoices {
         return row.middle();
     }
 
-    /** Returns the compromise of all delegates but one. */
     public int compromiseWithout(int delegate)
             throws IndexOutOfBoundsException, IllegalStateException {
         checkDelegate(delegate);
@@ -214,7 +193,6 @@ public final class RopeChoices {
         return row.middle();
     }
 
-    /** Returns the delegate with the smallest number who stands on the compromise of all. */
     public int decisiveOne() throws IllegalStateException {
         checkSomeoneThere();
         int middle = middleOfAll(planks);
@@ -226,18 +204,15 @@ public final class RopeChoices {
         return delegate;
     }
 
-    /** Returns the discontent of a delegate with the compromise of all. */
     public int discontentOf(int delegate) throws IndexOutOfBoundsException {
         checkDelegate(delegate);
         return discontent(delegate, middleOfAll(planks));
     }
 
-    /** Returns the discontent of all delegates with the compromise of all, added. */
     public int allDiscontent() {
         return discontentOfAll(middleOfAll(planks));
     }
 
-    /** Returns the smallest of the planks with which the discontent of all is the least. */
     public int bestPlank() throws IllegalStateException {
         checkSomeoneThere();
         int best = 0;
@@ -254,14 +229,12 @@ public final class RopeChoices {
 
     // ---- votes
 
-    /** Returns how many delegates have less discontent with a plank than with another one. */
     public int votesFor(int plank, int against)
             throws IndexOutOfBoundsException, IllegalArgumentException {
         checkTwoPlanks(plank, against);
         return countVotes(plank, against);
     }
 
-    /** Returns the plank with more votes against the other one, or the smaller number. */
     public int winnerOf(int plank, int other)
             throws IndexOutOfBoundsException, IllegalArgumentException {
         checkTwoPlanks(plank, other);
@@ -275,26 +248,22 @@ public final class RopeChoices {
 
     // ---- what would be
 
-    /** Returns whether a delegate can be led to a plank now. */
     public boolean canLeadTo(int delegate, int plank) throws IndexOutOfBoundsException {
         checkDelegate(delegate);
         checkPlank(plank);
         return isWilling(delegate, plank) && hasPlaceFor(delegate, plank);
     }
 
-    /** Returns where a delegate would be with a step now, whether there is room or not. */
     public int wouldStepTo(int delegate) throws IndexOutOfBoundsException {
         checkDelegate(delegate);
         return stepFrom(delegate, planks[delegate], middleOfAll(planks));
     }
 
-    /** Returns whether no delegate would go in a round now. */
     public boolean isStill() {
         copyPlanksToLater();
         return goRound(laterPlanks) == 0;
     }
 
-    /** Returns the plank where a delegate stands behind some rounds. */
     public int plankIn(int delegate, int rounds)
             throws IndexOutOfBoundsException, IllegalArgumentException {
         checkDelegate(delegate);
@@ -304,7 +273,6 @@ public final class RopeChoices {
         return laterPlanks[delegate];
     }
 
-    /** Returns the compromise of all behind some rounds. */
     public int compromiseIn(int rounds) throws IllegalArgumentException, IllegalStateException {
         checkRounds(rounds);
         checkSomeoneThere();
@@ -313,7 +281,6 @@ public final class RopeChoices {
         return middleOfAll(laterPlanks);
     }
 
-    /** Returns behind how many rounds, at most 100, there is a treaty, or -1. */
     public int roundsUntilTreaty() {
         copyPlanksToLater();
         for (int round = 0; round <= FARTHEST_ROUND; round++) {
@@ -325,7 +292,6 @@ public final class RopeChoices {
         return -1;
     }
 
-    /** Returns behind how many rounds, at most 100, nobody would go in the next one, or -1. */
     public int roundsUntilStill() {
         copyPlanksToLater();
         for (int round = 0; round <= FARTHEST_ROUND; round++) {
@@ -336,7 +302,6 @@ public final class RopeChoices {
         return -1;
     }
 
-    /** Returns the smallest plank from which a delegate would make the compromise fit best. */
     public int bestStand(int delegate) throws IndexOutOfBoundsException {
         checkDelegate(delegate);
         gatherOthers(delegate);
@@ -352,7 +317,6 @@ public final class RopeChoices {
         return best;
     }
 
-    /** Returns the mean number of the planks on which delegates stand; 0 without any. */
     public double meanPlank() {
         if (count == 0) {
             return 0.0;
@@ -364,7 +328,6 @@ public final class RopeChoices {
         return (double) sum / (double) count;
     }
 
-    /** Computes a checksum of all that can be asked without a choice of planks or rounds. */
     public long digest() {
         long d = DIGEST_START;
         d = fold(d, delegates());
@@ -604,7 +567,7 @@ public final class RopeChoices {
         return moves;
     }
 
-    /** Some delegates' planks, kept in a row by planks. */
+    /** Planks, put in a row as they come, so that a median needs no sorting of its own. */
     private static final class PlankRow {
         private final int[] sorted = new int[MOST_DELEGATES];
         private int length = 0;
@@ -630,12 +593,12 @@ public final class RopeChoices {
             length++;
         }
 
-        /** The median; 0 of an empty row, with which no answer is made. */
+        // A row without planks has no median: no answer is made with its 0.
         int middle() {
             return length == 0 ? 0 : sorted[(length - 1) / 2];
         }
 
-        /** The median, if one more stood there: that plank, cut to those on both sides of the middle. */
+        // One more can't bring the median past its neighbours in the middle: it is cut to them.
         int middleWith(int plank) {
             int place = length / 2;
             int least = place > 0 ? sorted[place - 1] : 0;

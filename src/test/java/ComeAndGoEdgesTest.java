@@ -284,6 +284,8 @@ public final class ComeAndGoEdgesTest extends Edges {
         due("5 the other one goes away", 20, () -> x.lead(2, 22));
         due("5 room now", 10, () -> x.lead(0, 20));
         duePlanks("5 they were led", x, 20, 21, 22);
+        x.persuade(0, 21);
+        dueUnchanged("5 to the wished one, without room", STATE, x, () -> x.lead(0, 21));
     }
 
     private void leadThrowsTheFirstNamed() {

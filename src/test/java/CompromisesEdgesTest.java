@@ -191,6 +191,8 @@ public final class CompromisesEdgesTest extends Edges {
         RopeChoices x = Bridges.of(5, 9, 20);
         x.persuade(0, 9);
         due("22 who stands there, not who wishes for it", 1, x::decisiveOne);
+        x.persuade(1, 30);
+        due("22 nor who wishes for the median of the wishes", 1, x::decisiveOne);
     }
 
     // ---- discontent

@@ -76,6 +76,8 @@ public final class WhatWouldBeEdgesTest extends Edges {
         dueUnchanged("28 where this one stands, too many", true, x, () -> x.canLeadTo(2, 20));
         dueUnchanged("28 who wishes for a plank takes no room", true, x,
             () -> x.canLeadTo(1, 21));
+        x.persuade(0, 20);
+        dueUnchanged("28 to the wished one, no room", false, x, () -> x.canLeadTo(0, 20));
     }
 
     // ---- wouldStepTo
@@ -438,7 +440,9 @@ public final class WhatWouldBeEdgesTest extends Edges {
         x.setStrength(1);
         x.persuade(0, 40);
         dueUnchanged("36 where they stand", (double) sum / 12, x, x::meanPlank);
-        for (int i = 0; i < 12; i++) {
+        int others = sum - x.recall(11);
+        dueUnchanged("36 without the one who left", (double) others / 11, x, x::meanPlank);
+        for (int i = 0; i < 11; i++) {
             x.recall(0);
         }
         dueUnchanged("36 0 without any again", 0.0, x, x::meanPlank);
